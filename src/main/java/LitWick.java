@@ -265,14 +265,14 @@ public final class LitWick {
         if (!within(a, 0, told.acts - 1)) {
             return BAD;
         }
-        return night.isEnded(a) ? STATE : foresight.fewestOpened(night, a);
+        return night.isEnded(a) ? STATE : foresight.fewestTurned(night, a, ~night.row[Night.OPEN], false);
     }
 
     public int guard(int a) {
         if (!within(a, 0, told.acts - 1)) {
             return BAD;
         }
-        return night.isEnded(a) ? STATE : foresight.fewestShut(night, a);
+        return night.isEnded(a) ? STATE : foresight.fewestTurned(night, a, night.row[Night.OPEN], true);
     }
 
     public int falls(int a) {
@@ -673,50 +673,37 @@ public final class LitWick {
         }
 
         private void step() {
-            while (at < size && text[at] == ' ') {
-                at++;
-            }
+            skipRun(' ', ' ');
             place = at;
             value = 0;
             if (at >= size) {
                 kind = END;
-            } else if (isLetter(text[at])) {
-                stepOverWord();
-            } else if (isDigit(text[at])) {
-                stepOverNumber();
+                return;
+            }
+            int sign = text[at];
+            at++;
+            if (sign >= 'a' && sign <= 'z') {
+                skipRun('a', 'z');
+                kind = WORD;
+                value = at == place + 1 ? sign : 0;
+            } else if (sign >= '0' && sign <= '9') {
+                skipRun('0', '9');
+                takeNumber(sign - '0', at - place);
             } else {
-                kind = text[at] == ';' ? SEMICOLON : WRONG;
+                kind = sign == ';' ? SEMICOLON : WRONG;
+            }
+        }
+
+        private void skipRun(int least, int most) {
+            while (at < size && text[at] >= least && text[at] <= most) {
                 at++;
             }
         }
 
-        private void stepOverWord() {
-            kind = WORD;
-            while (at < size && isLetter(text[at])) {
-                value = at == place ? text[at] : 0;
-                at++;
-            }
-        }
-
-        private void stepOverNumber() {
-            kind = NUMBER;
-            while (at < size && isDigit(text[at])) {
-                boolean behindZero = at > place && value == 0;
-                value = value * 10 + text[at] - '0';
-                if (behindZero || value > 99) {
-                    kind = WRONG;
-                    return;
-                }
-                at++;
-            }
-        }
-
-        private static boolean isLetter(int c) {
-            return within(c, 'a', 'z');
-        }
-
-        private static boolean isDigit(int c) {
-            return within(c, '0', '9');
+        /** No number has more than two digits, nor two with a 0 ahead. */
+        private void takeNumber(int firstDigit, int digits) {
+            kind = digits == 1 || digits == 2 && firstDigit > 0 ? NUMBER : WRONG;
+            value = digits == 1 ? firstDigit : firstDigit * 10 + text[place + 1] - '0';
         }
     }
 
@@ -950,7 +937,8 @@ public final class LitWick {
 
         int stageIn(Night night, int a, int n) {
             trial.copyFrom(night);
-            for (int i = 0; i < n; i++) {
+            // An act that is not begun, or has ended, stays so whatever comes.
+            for (int i = 0; i < n && trial.stage(a) == BEGUN; i++) {
                 trial.pass(trial.windBlows());
             }
             return trial.stage(a);
@@ -960,7 +948,7 @@ public final class LitWick {
         int firstVoid(Night night, boolean asksAct) {
             trial.copyFrom(night);
             int voidBefore = trial.actsThatAre(VOID);
-            for (int i = 1; i <= FORESEEN; i++) {
+            for (int i = 1; i <= FORESEEN && trial.actsThatAre(BEGUN) != 0; i++) {
                 if (trial.pass(trial.windBlows()) > 0) {
                     int fresh = trial.actsThatAre(VOID) & ~voidBefore;
                     return asksAct ? Integer.numberOfTrailingZeros(fresh) : i;
@@ -969,26 +957,16 @@ public final class LitWick {
             return NONE;
         }
 
-        int fewestOpened(Night night, int a) {
-            int open = night.row[Night.OPEN];
+        /** The fewest doors of some, turned (opened or shut) from now on, by which an act is whole in the end, or not. */
+        int fewestTurned(Night night, int a, int some, boolean whole) {
             for (int size = 0; size <= told.doors; size++) {
                 for (int set = 0; set < 1 << told.doors; set++) {
-                    boolean fits = Integer.bitCount(set) == size && (set & open) == 0;
-                    if (fits && !endsWholeWithDoors(night, a, open | set)) {
-                        return set;
-                    }
-                }
-            }
-            return NONE;
-        }
-
-        int fewestShut(Night night, int a) {
-            int open = night.row[Night.OPEN];
-            for (int size = 0; size <= told.doors; size++) {
-                for (int set = 0; set < 1 << told.doors; set++) {
-                    boolean fits = Integer.bitCount(set) == size && (set & ~open) == 0;
-                    if (fits && endsWholeWithDoors(night, a, open & ~set)) {
-                        return set;
+                    if (Integer.bitCount(set) == size && (set & ~some) == 0) {
+                        trial.copyFrom(night);
+                        trial.row[Night.OPEN] ^= set;
+                        if (endsWhole(a, 0, 0) == whole) {
+                            return set;
+                        }
                     }
                 }
             }
@@ -1007,12 +985,6 @@ public final class LitWick {
                 }
             }
             return ways;
-        }
-
-        private boolean endsWholeWithDoors(Night night, int a, int open) {
-            trial.copyFrom(night);
-            trial.row[Night.OPEN] = open;
-            return endsWhole(a, 0, 0);
         }
 
         /** Whether the act ends whole on the trial, the first minutes' wind being told by gusts. */

@@ -532,6 +532,14 @@ public final class PromisesTest {
     y.wants(3); y.wants(3); y.wants(3);
     due("25 piece by piece the lesser", y.cut(0) * 100 + y.cut(1) * 10 + y.cut(2), 1);
     due("25 over", y.cut(-2), 3);
+    LitWick w = Checks.told("r;c9 0;c9 0;c9 0;c9 0;c9 0;c9 0;");
+    for (int i = 0; i < 6; i++) w.wants(8);
+    due("25 all six", w.cut(-1), 6);
+    due("25 over of six", w.cut(-2), 6);
+    due("25 each from the next", w.cut(0) * 10 + w.cut(5), 5);
+    w.wants(1);
+    w.lights(5, 1);
+    due("25 no sixth", w.cut(-1), NONE);
     LitWick z = Checks.told("r;c5 0;");
     z.lights(0, 1); z.minutes(2); z.lights(0, 0); z.wants(4);
     due("25 only what is left", z.cut(-1), NONE);
