@@ -18,6 +18,8 @@ final class Checks {
 
   int wrong() { return wrong; }
 
+  int asked() { return asked; }
+
   void end() {
     System.out.println(test + ": " + asked + " checks, " + wrong + " wrong");
     if (wrong > 0 || asked == 0) System.exit(1);
