@@ -30,6 +30,8 @@ public final class ChandlerTest extends Sentences {
 
   static void promise23_length61IsBad() { refused(Sentences::busy, x -> x.wants(61), BAD); }
 
+  static void promise23_numbersOutsideAreBad() { outside(1, 60, (x, n) -> x.wants(n), BAD); }
+
   static void promise23_aSeventhIsFull() { refused(ChandlerTest::wantsSix, x -> x.wants(1), FULL); }
 
   static void promise23_badGoesAheadOfFull() {
@@ -182,6 +184,8 @@ public final class ChandlerTest extends Sentences {
     due(told("r;c5 0;").cut(0), BAD);
   }
 
+  static void promise25_numbersOutsideAreBad() { outside(-2, 1, (x, n) -> x.cut(n), BAD); }
+
   static void promise25_badGoesAheadOfNone() {
     LitWick x = wanting("r;c5 0;", 6);
     due(x.cut(-1), NONE);
@@ -257,6 +261,11 @@ public final class ChandlerTest extends Sentences {
   static void promise26_noSuchWhatIsBad() {
     refused(Sentences::busy, x -> x.shown(0, -1), BAD);
     refused(Sentences::busy, x -> x.shown(0, 2), BAD);
+  }
+
+  static void promise26_numbersOutsideAreBad() {
+    outside(0, 2, (x, n) -> x.shown(n, 0), BAD);
+    outside(0, 1, (x, n) -> x.shown(0, n), BAD);
   }
 
   static void promise26_changesNothing() {
@@ -406,6 +415,13 @@ public final class ChandlerTest extends Sentences {
   static void promise27_noSuchWhatIsBad() {
     refused(Sentences::busy, x -> x.odds(2, 5, 1, -1), BAD);
     refused(Sentences::busy, x -> x.odds(2, 5, 1, 2), BAD);
+  }
+
+  static void promise27_numbersOutsideAreBad() {
+    outside(0, 3, (x, n) -> x.odds(n, 5, 1, 0), BAD);
+    outside(0, 10, (x, n) -> x.odds(2, n, 1, 0), BAD);
+    outside(0, 6, (x, n) -> x.odds(2, 5, n, 0), BAD);
+    outside(0, 1, (x, n) -> x.odds(2, 5, 1, n), BAD);
   }
 
   static void promise27_badGoesAheadOfState() {

@@ -1,16 +1,23 @@
 /** What the tests share: due answers, and texts typed byte by byte. */
 final class Checks {
+  private static final int MOST_SHOWN = 10;
+
   private final String test;
   private int asked = 0;
   private int wrong = 0;
+  private int shown = 0;
 
   Checks(String test) { this.test = test; }
+
+  /** Another test begins: its own wrong answers are shown, however many others had. */
+  void begin() { shown = 0; }
 
   void due(String what, long got, long want) {
     asked++;
     if (got != want) {
       wrong++;
-      if (wrong <= 40) System.out.println(test + ": " + what + " answered " + got + ", due is " + want);
+      shown++;
+      if (shown <= MOST_SHOWN) System.out.println(test + ": " + what + " answered " + got + ", due is " + want);
     }
   }
 

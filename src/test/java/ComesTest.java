@@ -30,6 +30,11 @@ public final class ComesTest extends Sentences {
     due(told(FULLEST).comes(6, 1), BAD);
   }
 
+  static void promise17_numbersOutsideAreBad() {
+    outside(0, 3, (x, n) -> x.comes(n, 1), BAD);
+    outside(0, 60, (x, n) -> x.comes(0, n), BAD);
+  }
+
   static void promise17_wholeInAsManyMinutesAsItNeeds() {
     LitWick x = litAndBegun("r;c60 0;a20 1 0 9;");
     due(x.comes(0, 19), 1);
@@ -159,6 +164,8 @@ public final class ComesTest extends Sentences {
     refused(Sentences::busy, x -> x.first(2), BAD);
   }
 
+  static void promise18_numbersOutsideAreBad() { outside(0, 1, (x, n) -> x.first(n), BAD); }
+
   static void promise18_badGoesAheadOfNone() {
     due(new LitWick().first(-1), BAD);
     due(new LitWick().first(2), BAD);
@@ -189,6 +196,11 @@ public final class ComesTest extends Sentences {
   static void promise19_noSuchWhatIsBad() {
     refused(Sentences::busy, x -> x.bestActs(9, -1), BAD);
     refused(Sentences::busy, x -> x.bestActs(9, 2), BAD);
+  }
+
+  static void promise19_numbersOutsideAreBad() {
+    outside(0, 99, (x, n) -> x.bestActs(n, 0), BAD);
+    outside(0, 1, (x, n) -> x.bestActs(9, n), BAD);
   }
 
   static void promise19_needsTAtMost() {
@@ -374,6 +386,8 @@ public final class ComesTest extends Sentences {
     due(told(FULLEST).plot(6), BAD);
   }
 
+  static void promise20_numbersOutsideAreBad() { outside(0, 3, (x, n) -> x.plot(n), BAD); }
+
   static void promise20_changesNothing() {
     changesNothing(Sentences::busy, x -> x.plot(2));
     changesNothing(Sentences::busy, x -> x.plot(3));
@@ -484,6 +498,8 @@ public final class ComesTest extends Sentences {
     due(told(FULLEST).guard(6), BAD);
   }
 
+  static void promise21_numbersOutsideAreBad() { outside(0, 3, (x, n) -> x.guard(n), BAD); }
+
   static void promise21_changesNothing() {
     changesNothing(Sentences::busy, x -> x.guard(2));
     changesNothing(Sentences::busy, x -> x.guard(3));
@@ -521,6 +537,8 @@ public final class ComesTest extends Sentences {
     refused(Sentences::busy, x -> x.falls(4), BAD);
     due(told(FULLEST).falls(6), BAD);
   }
+
+  static void promise22_numbersOutsideAreBad() { outside(0, 3, (x, n) -> x.falls(n), BAD); }
 
   static void promise22_changesNothing() { changesNothing(Sentences::busy, x -> x.falls(0)); }
 }

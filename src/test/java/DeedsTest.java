@@ -51,6 +51,11 @@ public final class DeedsTest extends Sentences {
     refused(Sentences::busy, x -> x.lights(2, -1), BAD);
   }
 
+  static void promise9_numbersOutsideAreBad() {
+    outside(0, 2, (x, n) -> x.lights(n, 1), BAD);
+    outside(0, 1, (x, n) -> x.lights(2, n), BAD);
+  }
+
   static void promise9_badGoesAheadOfState() {
     refused(Sentences::busy, x -> x.lights(1, 2), BAD);
     refused(Sentences::busy, x -> x.lights(1, -1), BAD);
@@ -168,6 +173,16 @@ public final class DeedsTest extends Sentences {
     due(told(FULLEST).carries(0, 5), BAD);
   }
 
+  static void promise10_numbersOutsideAreBad() {
+    outside(0, 2, (x, n) -> x.carries(n, 1), BAD);
+    outside(0, 2, (x, n) -> x.carries(0, n), BAD);
+  }
+
+  static void promise10_badGoesAheadOfState() {
+    refused(x -> { busy(x); x.opens(0, 0); }, x -> x.carries(0, 3), BAD);
+    refused(x -> { busy(x); x.opens(0, 0); }, x -> x.carries(3, 0), BAD);
+  }
+
   // ---- promise 11: shields
 
   static void promise11_answersHowManyAre() {
@@ -201,6 +216,11 @@ public final class DeedsTest extends Sentences {
     refused(Sentences::busy, x -> x.shields(2, 2), BAD);
   }
 
+  static void promise11_numbersOutsideAreBad() {
+    outside(0, 2, (x, n) -> x.shields(n, 1), BAD);
+    outside(0, 1, (x, n) -> x.shields(0, n), BAD);
+  }
+
   // ---- promise 12: opens
 
   static void promise12_answersHowManyAreOpen() {
@@ -229,6 +249,11 @@ public final class DeedsTest extends Sentences {
     refused(Sentences::busy, x -> x.opens(2, 2), BAD);
     refused(Sentences::busy, x -> x.opens(2, -1), BAD);
     refused(Sentences::busy, x -> x.opens(0, 2), BAD);
+  }
+
+  static void promise12_numbersOutsideAreBad() {
+    outside(0, 2, (x, n) -> x.opens(n, 1), BAD);
+    outside(0, 1, (x, n) -> x.opens(2, n), BAD);
   }
 
   // ---- promise 13: begins
@@ -262,6 +287,8 @@ public final class DeedsTest extends Sentences {
     due(told(FULLEST).begins(6), BAD);
   }
 
+  static void promise13_numbersOutsideAreBad() { outside(0, 3, (x, n) -> x.begins(n), BAD); }
+
   // ---- promise 14: minutes, how many
 
   static void promise14_oneMinute() {
@@ -282,10 +309,7 @@ public final class DeedsTest extends Sentences {
 
   static void promise14_minutes61IsBad() { refused(Sentences::busy, x -> x.minutes(61), BAD); }
 
-  static void promise14_farOffNumbersAreBad() {
-    due(new LitWick().minutes(Integer.MAX_VALUE), BAD);
-    due(new LitWick().minutes(Integer.MIN_VALUE), BAD);
-  }
+  static void promise14_numbersOutsideAreBad() { outside(1, 60, (x, n) -> x.minutes(n), BAD); }
 
   private static Deed atMinute(int minute) { return x -> { busy(x); pass(x, minute - 2); }; }
 
@@ -860,13 +884,15 @@ public final class DeedsTest extends Sentences {
   }
 
   static void promise16_inAFullHouseWithNothingWholeOrVoid() {
-    LitWick x = litAndBegun(FULLEST);
-    for (int minute = 1; minute <= 4; minute++) {
-      x.minutes(1);
-      due("lit in " + minute, x.now(2), 63);
-      due("whole in " + minute, x.now(4), 0);
-      due("void in " + minute, x.now(5), 0);
-      due("worth in " + minute, x.now(6), 0);
+    for (int room = 0; room < 5; room++) {
+      LitWick x = litAndBegun("r;r;r;r;r;" + ("c60 " + room + ";").repeat(6) + ("a20 9 " + room + " 9;").repeat(6));
+      for (int minute = 1; minute <= 4; minute++) {
+        x.minutes(1);
+        due("lit in " + minute, x.now(2), 63);
+        due("whole in " + minute, x.now(4), 0);
+        due("void in " + minute, x.now(5), 0);
+        due("worth in " + minute, x.now(6), 0);
+      }
     }
   }
 
@@ -874,6 +900,8 @@ public final class DeedsTest extends Sentences {
     refused(Sentences::busy, x -> x.now(-1), BAD);
     refused(Sentences::busy, x -> x.now(7), BAD);
   }
+
+  static void promise16_numbersOutsideAreBad() { outside(0, 6, (x, n) -> x.now(n), BAD); }
 
   static void promise16_changesNothing() { for (int what = 0; what <= 6; what++) { int w = what; changesNothing(Sentences::busy, x -> x.now(w)); } }
 }

@@ -112,6 +112,8 @@ public final class HouseTest extends Sentences {
     due(new LitWick().type('r' + 256), BAD);
   }
 
+  static void promise2_numbersOutsideAreBad() { outside(0, 255, (x, n) -> x.type(n), BAD); }
+
   private static void hasAFullText(LitWick x) { Checks.typed(x, pad("r;", 200)); }
 
   static void promise2_a201stByteIsFull() { refused(HouseTest::hasAFullText, x -> x.type(' '), FULL); }
@@ -652,6 +654,11 @@ public final class HouseTest extends Sentences {
     refused(Sentences::busy, x -> x.candle(0, 5), BAD);
   }
 
+  static void promise5_numbersOutsideAreBad() {
+    outside(0, 2, (x, n) -> x.candle(n, 0), BAD);
+    outside(0, 4, (x, n) -> x.candle(0, n), BAD);
+  }
+
   static void promise5_changesNothing() { for (int what = 0; what <= 4; what++) { int w = what; changesNothing(Sentences::busy, x -> x.candle(0, w)); } }
 
   // ---- promise 6: door
@@ -698,6 +705,11 @@ public final class HouseTest extends Sentences {
   static void promise6_noSuchWhatIsBad() {
     refused(Sentences::busy, x -> x.door(0, -1), BAD);
     refused(Sentences::busy, x -> x.door(0, 3), BAD);
+  }
+
+  static void promise6_numbersOutsideAreBad() {
+    outside(0, 2, (x, n) -> x.door(n, 0), BAD);
+    outside(0, 2, (x, n) -> x.door(0, n), BAD);
   }
 
   static void promise6_changesNothing() { for (int what = 0; what <= 2; what++) { int w = what; changesNothing(Sentences::busy, x -> x.door(0, w)); } }
@@ -777,6 +789,11 @@ public final class HouseTest extends Sentences {
   static void promise7_noSuchWhatIsBad() {
     refused(Sentences::busy, x -> x.act(0, -1), BAD);
     refused(Sentences::busy, x -> x.act(0, 6), BAD);
+  }
+
+  static void promise7_numbersOutsideAreBad() {
+    outside(0, 3, (x, n) -> x.act(n, 0), BAD);
+    outside(0, 5, (x, n) -> x.act(0, n), BAD);
   }
 
   static void promise7_changesNothing() { for (int what = 0; what <= 5; what++) { int w = what; changesNothing(Sentences::busy, x -> x.act(0, w)); } }
@@ -886,6 +903,11 @@ public final class HouseTest extends Sentences {
   static void promise8_noSuchWhatIsBad() {
     refused(Sentences::busy, x -> x.room(0, -1), BAD);
     refused(Sentences::busy, x -> x.room(0, 4), BAD);
+  }
+
+  static void promise8_numbersOutsideAreBad() {
+    outside(0, 2, (x, n) -> x.room(n, 0), BAD);
+    outside(0, 3, (x, n) -> x.room(0, n), BAD);
   }
 
   static void promise8_changesNothing() { for (int what = 0; what <= 3; what++) { int w = what; changesNothing(Sentences::busy, x -> x.room(0, w)); } }

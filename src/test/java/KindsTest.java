@@ -68,6 +68,11 @@ public final class KindsTest extends Sentences {
     due(told(FULLEST).mark(0, 6), NO);
   }
 
+  static void promise28_numbersOutsideAreNo() {
+    outside(0, 5, (x, n) -> x.mark(n, 0), NO);
+    outside(0, 2, (x, n) -> x.mark(0, n), NO);
+  }
+
   static void promise28_changesNothingButTheTrace() {
     for (int kind = 0; kind <= 5; kind++) {
       LitWick x = made(Sentences::busy), y = made(Sentences::busy);
@@ -130,6 +135,8 @@ public final class KindsTest extends Sentences {
     refused(Sentences::busy, x -> x.keep(-1), BAD);
     refused(Sentences::busy, x -> x.keep(2), BAD);
   }
+
+  static void promise29_numbersOutsideAreBad() { outside(0, 1, (x, n) -> x.keep(n), BAD); }
 
   static void promise29_changesNothingButTheImage() {
     alike(x -> { busy(x); x.keep(0); x.back(0); x.keep(0); }, x -> { busy(x); x.keep(0); });
@@ -330,6 +337,8 @@ public final class KindsTest extends Sentences {
     refused(Sentences::busy, x -> x.back(2), BAD);
   }
 
+  static void promise30_numbersOutsideAreBad() { outside(0, 1, (x, n) -> x.back(n), BAD); }
+
   static void promise30_badGoesAheadOfState() {
     due(new LitWick().back(-1), BAD);
     due(new LitWick().back(2), BAD);
@@ -389,6 +398,8 @@ public final class KindsTest extends Sentences {
     refused(Sentences::busy, x -> x.count(-1), BAD);
     refused(Sentences::busy, x -> x.count(8), BAD);
   }
+
+  static void promise31_numbersOutsideAreBad() { outside(0, 7, (x, n) -> x.count(n), BAD); }
 
   static void promise31_changesNothing() { for (int what = 0; what <= 7; what++) { int w = what; changesNothing(Sentences::busy, x -> x.count(w)); } }
 

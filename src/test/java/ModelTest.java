@@ -4,7 +4,8 @@ import java.util.Random;
 public final class ModelTest {
   private static final Checks checks = new Checks("ModelTest");
   private static final int RUNS = 3000;
-  private static final int CALLS = 512;
+  /** An object is good for 512 calls: no step takes as many as 20, the reading of a text apart. */
+  private static final int CALLS = 492;
 
   public static void main(String[] args) {
     for (int run = 0; run < RUNS && checks.wrong() == 0; run++) new ModelTest(run).run();
@@ -33,8 +34,9 @@ public final class ModelTest {
   private void run() {
     typeText();
     due("house", x.house(), m.house());
+    if (dice.nextInt(8) == 0) growLate();
     while (calls < CALLS && checks.wrong() == 0) {
-      if (dice.nextInt(150) == 0 && calls < CALLS - 210) {
+      if (dice.nextInt(150) == 0 && calls < CALLS - 200) {
         typeText();
         due("house", x.house(), m.house());
       }
@@ -43,6 +45,13 @@ public final class ModelTest {
     }
     for (int what = 0; what <= 7; what++) due("count " + what, x.count(what), m.count(what));
     due("trace", x.trace(), m.trace);
+  }
+
+  /** To a minute near the last one. */
+  private void growLate() {
+    for (int i = 0; i < 16; i++) due("minutes 60", x.minutes(60), m.minutes(60));
+    int n = 1 + dice.nextInt(41);
+    due("minutes " + n, x.minutes(n), m.minutes(n));
   }
 
   /** One of those that are, mostly. */

@@ -22,6 +22,8 @@ abstract class Sentences {
 
   interface Ask { long of(LitWick x); }
 
+  interface NumberAsk { long of(LitWick x, int n); }
+
   static void run(Class<?> tests) {
     checks = new Checks(tests.getSimpleName());
     Method[] all = tests.getDeclaredMethods();
@@ -30,6 +32,7 @@ abstract class Sentences {
     for (Method m : all) {
       if (number(m) == 0) continue;
       test = m.getName();
+      checks.begin();
       int before = checks.asked();
       call(m);
       checks.holds(test + " asks something", checks.asked() > before);
@@ -158,6 +161,15 @@ abstract class Sentences {
   }
 
   static void changesNothing(Deed scene, Ask call) { alike(x -> { scene.on(x); call.of(x); }, scene); }
+
+  /** Numbers outside of what may be told, near and far, are refused; 32 and 64 are where Java's shifts come round. */
+  static void outside(int least, int most, NumberAsk call, long want) {
+    int[] numbers = {Integer.MIN_VALUE, Integer.MIN_VALUE + 1, -65536, -256, -64, -32, least - 1, most + 1,
+      32, 64, 256, 65536, Integer.MAX_VALUE - 1, Integer.MAX_VALUE};
+    for (int n : numbers) {
+      if (n < least || n > most) due("number " + n, call.of(made(Sentences::busy), n), want);
+    }
+  }
 
   /** A call is refused as told, and nothing changes. */
   static void refused(Deed scene, Ask call, long want) {
